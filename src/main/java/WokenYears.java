@@ -58,6 +58,23 @@ public final class WokenYears {
         return i >= 0 && i < from.length ? from[i] : null;
     }
 
+    // 0: there is one
+    private int refused(Ints one) {
+        if (one == null) {
+            return BAD;
+        }
+        return one.size < 0 ? found(NOTHING) : 0;
+    }
+
+    // 0: there is such a place
+    private int refusedAt(Ints one, int i) {
+        int refused = refused(one);
+        if (one == null || refused != 0) {
+            return refused;
+        }
+        return one.has(i) ? 0 : found(BEYOND);
+    }
+
     private static int present(Ints[] all) {
         int many = 0;
         for (int i = 0; i < all.length; i++) {
@@ -85,14 +102,9 @@ public final class WokenYears {
 
     public int lay(int r, int i, int v) {
         Ints row = pick(rows, r);
-        if (row == null) {
-            return BAD;
-        }
-        if (row.size < 0) {
-            return found(NOTHING);
-        }
-        if (!row.has(i)) {
-            return found(BEYOND);
+        int refused = refusedAt(row, i);
+        if (row == null || refused != 0) {
+            return refused;
         }
         asked = row.get(i);
         row.set(i, v);
@@ -101,14 +113,9 @@ public final class WokenYears {
 
     public int at(int r, int i) {
         Ints row = pick(rows, r);
-        if (row == null) {
-            return BAD;
-        }
-        if (row.size < 0) {
-            return found(NOTHING);
-        }
-        if (!row.has(i)) {
-            return found(BEYOND);
+        int refused = refusedAt(row, i);
+        if (row == null || refused != 0) {
+            return refused;
         }
         asked = row.get(i);
         return 1;
@@ -116,11 +123,9 @@ public final class WokenYears {
 
     public int tear(int r) {
         Ints row = pick(rows, r);
-        if (row == null) {
-            return BAD;
-        }
-        if (row.size < 0) {
-            return found(NOTHING);
+        int refused = refused(row);
+        if (row == null || refused != 0) {
+            return refused;
         }
         row.drop();
         return 1;
@@ -147,11 +152,9 @@ public final class WokenYears {
 
     public int mean(int r) {
         Ints row = pick(rows, r);
-        if (row == null) {
-            return BAD;
-        }
-        if (row.size < 0) {
-            return found(NOTHING);
+        int refused = refused(row);
+        if (row == null || refused != 0) {
+            return refused;
         }
         if (row.size == 0) {
             return found(NOUGHT);
@@ -178,14 +181,9 @@ public final class WokenYears {
 
     public int put(int t, int i, int v) {
         Ints text = pick(texts, t);
-        if (text == null) {
-            return BAD;
-        }
-        if (text.size < 0) {
-            return found(NOTHING);
-        }
-        if (!text.has(i)) {
-            return found(BEYOND);
+        int refused = refusedAt(text, i);
+        if (text == null || refused != 0) {
+            return refused;
         }
         int was = text.get(i);
         text.set(i, (byte) v);
@@ -194,22 +192,18 @@ public final class WokenYears {
 
     public int fault(int t) {
         Ints text = pick(texts, t);
-        if (text == null) {
-            return BAD;
-        }
-        if (text.size < 0) {
-            return found(NOTHING);
+        int refused = refused(text);
+        if (text == null || refused != 0) {
+            return refused;
         }
         return reader.read(text, draft);
     }
 
     public int town(int t) {
         Ints text = pick(texts, t);
-        if (text == null) {
-            return BAD;
-        }
-        if (text.size < 0) {
-            return found(NOTHING);
+        int refused = refused(text);
+        if (text == null || refused != 0) {
+            return refused;
         }
         if (reader.read(text, draft) != NONE) {
             return STATE;
@@ -355,11 +349,9 @@ public final class WokenYears {
 
     public int on(int k) {
         Ints place = pick(kept, k);
-        if (place == null) {
-            return BAD;
-        }
-        if (place.size < 0) {
-            return found(NOTHING);
+        int refused = refused(place);
+        if (place == null || refused != 0) {
+            return refused;
         }
         street.deeds.takeFrom(place);
         street.replay();
@@ -459,11 +451,9 @@ public final class WokenYears {
     // ---- 6 by how many taps it took
 
     private int refusedPairs(Ints row) {
-        if (row == null) {
-            return BAD;
-        }
-        if (row.size < 0) {
-            return found(NOTHING);
+        int refused = refused(row);
+        if (row == null || refused != 0) {
+            return refused;
         }
         if (row.size % 2 != 0 || row.size > PAIRED_INTS_MOST) {
             return found(SIZE);
@@ -916,9 +906,9 @@ public final class WokenYears {
         private int firstFrost;
         int frost;
         int minute;
-        private int night;
+        int night;
         int place;
-        private int purse;
+        int purse;
 
         Street() {
             deeds.fill(0, 0);

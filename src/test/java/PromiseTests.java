@@ -165,6 +165,7 @@ public final class PromiseTests {
         due("row(5, 41)", x.row(5, 41), BAD);
         due("row(0, 0)", x.row(0, 0), 0);
         finds(x, "at(0, 0)", x.at(0, 0), BEYOND);
+        finds(x, "lay(0, 0, 1)", x.lay(0, 0, 1), BEYOND);
         for (int r : new int[] {-1, 6, MIN, MAX}) {
             due("row", x.row(r, 1), BAD);
             due("row below 0 of none", x.row(r, -1), BAD);
@@ -195,6 +196,8 @@ public final class PromiseTests {
         finds(x, "tear(1) again", x.tear(1), NOTHING);
         finds(x, "at(1, 0)", x.at(1, 0), NOTHING);
         due("rows there", x.count(10), 2);
+        due("tear(0), of no ints", x.tear(0), 1);
+        due("rows there", x.count(10), 1);
     }
 
     // 6
@@ -226,6 +229,10 @@ public final class PromiseTests {
         due("BAD to", x.copy(0, 0, -1, 0, 1), BAD);
         isRow(x, 0, 1, 2, 3, 4, 4);
         isRow(x, 1, 6, 4, 5);
+        x.row(4, 0);
+        due("copy of none to a row of none", x.copy(0, 2, 4, 0, 0), 1);
+        due("copy of none from a row of none", x.copy(4, 0, 0, 2, 0), 1);
+        finds(x, "copy from a row of none", x.copy(4, 0, 0, 2, 1), BEYOND);
     }
 
     // 7
@@ -268,6 +275,7 @@ public final class PromiseTests {
         due("put(4, 0, 1)", x.put(4, 0, 1), BAD);
         due("texts there", x.count(11), 1);
         due("text(3, 0)", x.text(3, 0), 0);
+        finds(x, "put(3, 0, 1)", x.put(3, 0, 1), BEYOND);
         due("texts there", x.count(11), 2);
         due("text anew", x.text(0, 60), 60);
         due("blanks again", x.put(0, 59, 1), 1032);
@@ -277,6 +285,9 @@ public final class PromiseTests {
     private static void faults() {
         fault("", 0);
         fault("   ", 3);
+        fault(" ".repeat(60), 60);
+        fault(" ".repeat(51) + "s010h3209", NONE);
+        fault("s010" + " ".repeat(51) + "h3209", NONE);
         fault("s010h3209", NONE);
         fault("  s010   h3209  i0000 ", NONE);
         fault("s199m9999", NONE);
@@ -287,6 +298,8 @@ public final class PromiseTests {
         fault("s 010h3209", 1);
         fault("s0:0h3209", 2);
         fault("s01 0h3209", 3);
+        fault("s01:h3209", 3);
+        fault("s010h320:", 8);
         fault("s01", 3);
         fault("s010", 4);
         fault("s010  ", 6);
@@ -474,6 +487,15 @@ public final class PromiseTests {
         due("deeds", x.count(3), 40);
         due("undo one", x.undo(39), 1);
         due("room again", x.tap(), 0);
+        x.undo(39);
+        due("a slate is the last deed", x.slate(0, 1), 32);
+        x.undo(39);
+        due("frost is the last deed", x.frost(1), 1);
+        x.undo(39);
+        due("night is the last deed", x.night(), 0);
+        x.undo(39);
+        CHECKS.that("a lot is the last deed", x.lots(1, 1) >= 0);
+        due("deeds", x.count(3), 40);
     }
 
     // 15
@@ -700,6 +722,11 @@ public final class PromiseTests {
         x.night();
         due("night", x.quarrels(), 0);
         due("one house", in("s000 h9900").quarrels(), 0);
+        WokenYears first = in("s010 r5000 r6100");
+        first.tap();
+        first.walk(1);
+        first.tap();
+        due("the first two", first.quarrels(), 1);
     }
 
     // 26
@@ -715,6 +742,8 @@ public final class PromiseTests {
         due("MIN", x.soonest(MIN), BAD);
         x.walk(4);
         due("the nearer end first", x.soonest(33), 1 + 5 + 2 + 2);
+        x.walk(2);
+        due("the nearer end first", x.soonest(2 + 16), 1 + 3 + 4 + 5);
         x.walk(1);
         due("the nearer end first", x.soonest(33), 1 + 5 + 2 + 2);
         due("in between", x.soonest(2), 4);
@@ -726,6 +755,9 @@ public final class PromiseTests {
         x.frost(1);
         due("frozen", x.soonest(16), STATE);
         due("a mill", x.soonest(32), 6);
+        x.walk(0);
+        tap(x, 2);
+        due("the first is awake", x.soonest(1), STATE);
     }
 
     // 27
@@ -906,6 +938,7 @@ public final class PromiseTests {
         due("in none", x.asked(), 0);
         finds(x, "sure(11)", x.sure(11), NOUGHT);
         due("asked() stays", x.asked(), 0);
+        finds(x, "sure(99)", x.sure(99), NOUGHT);
         due("sure(100)", x.sure(100), BAD);
         due("sure(-1)", x.sure(-1), BAD);
         due("BAD ahead of STATE", new WokenYears().sure(100), BAD);
@@ -997,6 +1030,22 @@ public final class PromiseTests {
         due("it comes", x.count(5), 1);
         due("frost", x.lots(1, 4), 0);
         due("it goes", x.count(5), 0);
+        // what each of the eight sorts does to where she stands, to the minute, to the frost
+        int[] seeds = {9, 1, 10, 2, 11, 3, 16, 4};
+        due("sorts", seeds.length, 8);
+        for (int sort = 0; sort < 8; sort++) {
+            x.undo(0);
+            long lot = seeds[sort] * 48271L;
+            due("the lot of " + seeds[sort], lot / 8 % 8, sort);
+            x.lots(1, seeds[sort]);
+            boolean taps = sort >= 2 && sort <= 5;
+            due("a tap by sort " + sort, x.house(0, 3), 1);
+            due("a tap by sort " + sort, x.asked(), taps ? 1 : 0);
+            due("a walk by sort " + sort, x.count(4), sort <= 1 ? lot % 2 : 0);
+            due("frost by sort " + sort, x.count(5), sort == 7 ? 1 : 0);
+            tells(x, "a slate by sort " + sort, x.house((int) (lot % 2), 1), sort == 6 ? (int) (lot / 64 % 100) : 0);
+        }
+        x.undo(0);
         due("lots(0, 1)", x.lots(0, 1), BAD);
         due("lots(21, 1)", x.lots(21, 1), BAD);
         due("lots(1, 0)", x.lots(1, 0), BAD);
