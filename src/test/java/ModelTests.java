@@ -10,6 +10,8 @@ public final class ModelTests {
     private final WokenYears years = new WokenYears();
     private final Model model = new Model();
     private final boolean wild;
+    // of the object: what it answers behind its 512th call is free
+    private int calls = 0;
 
     private ModelTests(long seed, boolean wild) {
         random = new Random(seed);
@@ -17,9 +19,9 @@ public final class ModelTests {
     }
 
     public static void main(String[] args) {
-        int runs = Integer.getInteger("runs", 200);
-        for (int run = 0; run < runs && CHECKS.wrong() == 0; run++) new ModelTests(run, run % 5 == 4).run(run % 3 == 0 ? 400 : 100);
-        for (int run = 0; run < runs / 4 && CHECKS.wrong() == 0; run++) new ModelTests(7000 + run, false).minuteByMinute();
+        int runs = Integer.getInteger("runs", 600);
+        for (int run = 0; run < runs && CHECKS.wrong() == 0; run++) new ModelTests(run, run % 5 == 4).run();
+        for (int run = 0; run < runs / 12 && CHECKS.wrong() == 0; run++) new ModelTests(7000 + run, false).minuteByMinute();
         CHECKS.end("ModelTests");
     }
 
@@ -72,7 +74,7 @@ public final class ModelTests {
         String text = signs.length() > 60 ? signs.substring(0, 60) : signs;
         same("text(" + t + ", " + text.length() + ")", years.text(t, text.length()), model.text(t, text.length()));
         for (int i = 0; i < text.length(); i++) {
-            same("put(" + t + ", " + i + ", " + (int) text.charAt(i) + ")", years.put(t, i, text.charAt(i)), model.put(t, i, text.charAt(i)));
+            alone("put(" + t + ", " + i + ", " + (int) text.charAt(i) + ")", years.put(t, i, text.charAt(i)), model.put(t, i, text.charAt(i)));
         }
     }
 
@@ -83,21 +85,29 @@ public final class ModelTests {
         same("put(" + t + ", " + i + ", " + v + ")", years.put(t, i, v), model.put(t, i, v));
     }
 
-    private void same(String call, long got, long want) {
+    private void alone(String call, long got, long want) {
         told.add(call);
+        calls++;
         int before = CHECKS.wrong();
         CHECKS.due(call, got, want);
-        CHECKS.due("asked() then", years.asked(), model.asked);
-        CHECKS.due("upper() then", years.upper(), model.upper.longValueExact());
-        CHECKS.due("lower() then", years.lower(), model.lower.longValueExact());
-        CHECKS.due("finding() then", years.finding(), model.finding);
-        CHECKS.due("findings() then", years.findings(model.finding), model.findings(model.finding));
-        CHECKS.due("digest() then", years.digest(), model.digest());
         if (before == 0 && CHECKS.wrong() != 0) System.out.println("the run: " + told);
     }
 
-    private void run(int calls) {
-        for (int k = 0; k < calls && CHECKS.wrong() == 0; k++) {
+    private void same(String call, long got, long want) {
+        alone(call, got, want);
+        alone("asked()", years.asked(), model.asked);
+        alone("finding()", years.finding(), model.finding);
+        alone("digest()", years.digest(), model.digest());
+    }
+
+    private void ratio(String call, long got, long want) {
+        same(call, got, want);
+        alone("upper()", years.upper(), model.upper.longValueExact());
+        alone("lower()", years.lower(), model.lower.longValueExact());
+    }
+
+    private void run() {
+        while (calls < 400 && CHECKS.wrong() == 0) {
             if (model.count(0) == 0 && upTo(4) == 0 || upTo(120) == 0) {
                 int t = upTo(3);
                 write(t, townText(1 + upTo(upTo(8) == 0 ? 6 : 5)));
@@ -108,6 +118,9 @@ public final class ModelTests {
             }
             call(upTo(46));
         }
+        for (int f = 0; f <= 6; f++) alone("findings(" + f + ")", years.findings(f), model.findings(f));
+        ratio("count(14)", years.count(14), model.count(14));
+        CHECKS.that("no more than 512 calls of an object: " + calls, calls <= 512);
     }
 
     private void call(int which) {
@@ -199,12 +212,12 @@ public final class ModelTests {
             case 32 -> same("intime(" + set + ", " + r + ")", years.intime(set, r), model.intime(set, r));
             case 33 -> same("many()", years.many(), model.many());
             case 34 -> same("dates(" + r + ")", years.dates(r), model.dates(r));
-            case 35 -> same("sets(" + v + ")", years.sets(v), model.sets(v));
+            case 35 -> ratio("sets(" + v + ")", years.sets(v), model.sets(v));
             case 36 -> same("sure(" + v + ")", years.sure(v), model.sure(v));
             case 37 -> same("duel(" + what + ")", years.duel(what), model.duel(what));
             default -> {
-                same("odds(" + i + ", " + n + ", " + p + ")", years.odds(i, n, p), model.odds(i, n, p));
-                same("mid(" + i + ", " + n + ", " + p + ")", years.mid(i, n, p), model.mid(i, n, p));
+                ratio("odds(" + i + ", " + n + ", " + p + ")", years.odds(i, n, p), model.odds(i, n, p));
+                ratio("mid(" + i + ", " + n + ", " + p + ")", years.mid(i, n, p), model.mid(i, n, p));
             }
         }
     }
@@ -219,8 +232,8 @@ public final class ModelTests {
             for (int k = 0; k + 1 < Math.min(size, 42); k += 2) {
                 int date = date();
                 int took = kind < 0 || upTo(8) == 0 ? near(0, 9) : Math.max(0, model.takes(kind, Math.max(0, date)));
-                same("lay(" + r + ", " + k + ", " + date + ")", years.lay(r, k, date), model.lay(r, k, date));
-                same("lay(" + r + ", " + (k + 1) + ", " + took + ")", years.lay(r, k + 1, took), model.lay(r, k + 1, took));
+                alone("lay(" + r + ", " + k + ", " + date + ")", years.lay(r, k, date), model.lay(r, k, date));
+                alone("lay(" + r + ", " + (k + 1) + ", " + took + ")", years.lay(r, k + 1, took), model.lay(r, k + 1, took));
             }
         }
         same("whose(" + r + ")", years.whose(r), model.whose(r));

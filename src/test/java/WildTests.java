@@ -20,7 +20,7 @@ public final class WildTests {
         // the machine tells methods in no order of its own
         Arrays.sort(calls, Comparator.comparing(Method::getName));
         CHECKS.due("public calls", calls.length, 45 - 1);
-        for (int run = 0; run < 3000; run++) {
+        for (int run = 0; run < 4000; run++) {
             wildRun(calls, new Random(run), run % 2 == 0);
         }
         CHECKS.due("what 512 dear calls make", Math.max(0, madeByDearCalls() - 200_000), 0);
@@ -32,7 +32,8 @@ public final class WildTests {
         if (withTown) {
             build(x, "s115h4209v4530r9905d4899i4130m4425".substring(0, 4 + 5 * (1 + random.nextInt(6))));
         }
-        for (int k = 0; k < 200; k++) {
+        // with two digests each they stay below the 512 calls of an object
+        for (int k = 0; k < 150; k++) {
             Method call = calls[random.nextInt(calls.length)];
             Object[] numbers = new Object[call.getParameterCount()];
             boolean near = random.nextInt(3) > 0;
@@ -67,7 +68,7 @@ public final class WildTests {
             WokenYears x = new WokenYears();
             build(x, "s015h4299v4599r9999h4899i4199m4499");
             long before = threads.getThreadAllocatedBytes(Thread.currentThread().getId());
-            for (int k = 0; k < 40; k++) {
+            for (int k = 0; k < 39; k++) {
                 x.intime(63, 0);
                 x.many();
                 x.dates(1);
